@@ -108,6 +108,10 @@ public final class ForetoldTest {
         x.set(0, 4, -2);
         Due.due("best(0, 5, 9)", x.best(0, 5, 9), Due.BAD);
         Due.due("best(0, 4, 9)", x.best(0, 4, 9), Due.NONE);
+        x.set(0, 0, 2);
+        Due.due("the first ITEM is no move", x.best(0, 4, 9), Due.BAD);
+        x.set(0, 0, 1);
+        x.best(0, 4, -2);
         Due.due("status()", x.status(), 0);
     }
 

@@ -8,6 +8,8 @@ public final class ImagesTest {
         kept();
         twoImages();
         anImageStays();
+        allDays();
+        allDaysOfTheRightMan();
         Due.end();
     }
 
@@ -72,6 +74,39 @@ public final class ImagesTest {
         x.restore(1);
         x.restore(0);
         Due.due("the DAY", x.count(2), 2);
+    }
+
+    private static void allDays() {
+        FenceYards x = Due.groundOf("fence 6 6;strip rye 90 4;strip bean 7 10;strip bean 5 11;");
+        for (int d = 0; d < 12; d++) {
+            x.day(d % 2 == 0 ? 1 : -1, d % 3 == 0 ? 1 : 0);
+        }
+        int left = x.reaped(0, 0);
+        x.image(1);
+        Due.read(x, "fence 0 0;");
+        x.restore(1);
+        Due.due("reaped", x.reaped(0, 0), left);
+        Due.fraction("the RIGHT man's", x.reaped(1, 0), x.reaped(1, 1), 0, 1);
+        Due.due("A", x.count(3), 6);
+        Due.due("B", x.count(4), 10);
+        Due.due("undo()", x.undo(), 11);
+        Due.due("A", x.count(3), 7);
+        Due.due("reaped", x.reaped(0, 0), left - 25);
+        Due.due("undo()", x.undo(), 10);
+        Due.due("reaped", x.reaped(0, 0), left - 62);
+    }
+
+    private static void allDaysOfTheRightMan() {
+        FenceYards x = Due.groundOf("fence 0 0;strip bean 5 10;strip bean 7 11;");
+        for (int d = 0; d < 12; d++) {
+            x.day(0, 0);
+        }
+        x.image(1);
+        Due.read(x, "fence 0 0;");
+        x.restore(1);
+        Due.due("reaped", x.reaped(1, 0), 12);
+        x.undo();
+        Due.due("reaped", x.reaped(1, 0), 5);
     }
 
     private static void anImageStays() {

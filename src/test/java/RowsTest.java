@@ -110,6 +110,8 @@ public final class RowsTest {
         Due.due("copy(0, 0, 1, 0, -1)", x.copy(0, 0, 1, 0, -1), Due.PLACE);
         Due.due("copy(0, 0, 1, 0, 3)", x.copy(0, 0, 1, 0, 3), Due.PLACE);
         Due.due("copy(1, 0, 0, 0, 3)", x.copy(1, 0, 0, 0, 3), Due.PLACE);
+        Due.due("copy(0, 3, 1, 0, 2)", x.copy(0, 3, 1, 0, 2), Due.PLACE);
+        Due.due("copy(0, 0, 1, 1, 2)", x.copy(0, 0, 1, 1, 2), Due.PLACE);
         Due.due("copy(0, 5, 1, 0, 0)", x.copy(0, 5, 1, 0, 0), Due.PLACE);
         Due.due("copy(0, MAX, 1, 0, MAX)", x.copy(0, max, 1, 0, max), Due.PLACE);
         Due.due("copy(0, 0, 1, MAX, 1)", x.copy(0, 0, 1, max, 1), Due.PLACE);

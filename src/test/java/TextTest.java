@@ -11,6 +11,7 @@ public final class TextTest {
         grounds();
         blanks();
         tokens();
+        whatThereWasOnTheTape();
         misplaced();
         wrongNumbers();
         noRoom();
@@ -101,6 +102,9 @@ public final class TextTest {
         fault(x, "fence 3 00000000000000000004;", 8, 1);
         fault(x, "fence 3 4;strip bean 1 99999999999;", 23, 1);
         fault(x, "fences 3 4;", 0, 1);
+        fault(x, "fencez 3 4;", 0, 1);
+        fault(x, "afence 3 4;", 0, 1);
+        fault(x, "gence 3 4;", 0, 1);
         fault(x, "fenc 3 4;", 0, 1);
         fault(x, "Fence 3 4;", 0, 1);
         fault(x, "fencE 3 4;", 0, 1);
@@ -115,6 +119,19 @@ public final class TextTest {
         fault(x, FENCE + "strip rye 1 1;{", 24, 1);
         fault(x, FENCE + "strip rye 1 1;`", 24, 1);
         fault(x, FENCE + "strip rye /1 1;", 20, 1);
+    }
+
+    /** Bytes of a text before, behind the end of this one, are none of it. */
+    private static void whatThereWasOnTheTape() {
+        FenceYards x = new FenceYards();
+        Due.due("a longer one", Due.read(x, "fence 1 12;"), 0);
+        fault(x, "fence 1 1", 9, 1);
+        fault(x, "fences", 0, 1);
+        fault(x, "fence", 5, 1);
+        fault(x, "fence ", 6, 1);
+        fault(x, "fence", 5, 1);
+        Due.due("a longer one", Due.read(x, "fence 1 2;strip rye 1 1;"), 1);
+        Due.due("a shorter one", Due.read(x, "fence 1 2;"), 0);
     }
 
     private static void misplaced() {
@@ -146,6 +163,7 @@ public final class TextTest {
     private static void wrongNumbers() {
         FenceYards x = new FenceYards();
         fault(x, "fence 13 4;", 6, 2);
+        fault(x, "fence 3 13;", 8, 2);
         fault(x, "fence 3 999;", 8, 2);
         fault(x, "fence 13 A;", 6, 2);
         fault(x, FENCE + "pond 2 1;", 15, 2);
@@ -205,6 +223,10 @@ public final class TextTest {
         Due.due("nothing was reaped", x.reaped(0, 0), 0);
         Due.due("nothing can be undone", x.undo(), Due.STATE);
         Due.due("the old pond is gone", x.day(-1, 0), 5 * 13 + 2);
+        Due.read(x, "fence 6 2;");
+        Due.due("no STRIP of the one before", x.strip(0, 0), Due.BAD);
+        Due.due("nor of the one ahead of that", x.strip(1, 0), Due.BAD);
+        Due.due("nothing of them is reaped", x.unseen(0, 1, 0), 9);
         Due.due("IMAGES stay", x.restore(0), 1);
         Due.due("STRIPS", x.count(1), 2);
         Due.due("the DAY", x.count(2), 1);
