@@ -795,7 +795,17 @@ public final class FenceYards {
         private boolean readsInto(Ground ground) {
             at = 0;
             ground.begin();
-            ground.stands = readFence(ground) && readRest(ground);
+            boolean faultless = readFence(ground);
+            for (int i = 0; i < MOST_BYTES && faultless && !ground.stands; i++) {
+                nextToken();
+                if (token == END) {
+                    ground.stands = true;
+                } else if (isWord("pond") && ground.told == 0) {
+                    faultless = readPond(ground);
+                } else {
+                    faultless = isWord("strip") ? readStrip(ground) : fail(MISPLACED);
+                }
+            }
             size = 0;
             return ground.stands;
         }
@@ -816,30 +826,10 @@ public final class FenceYards {
             return readSign();
         }
 
-        private boolean readRest(Ground ground) {
-            for (int i = 0; i <= MOST_BYTES; i++) {
-                nextToken();
-                if (token == END) {
-                    return true;
-                }
-                if (!readPondOrStrip(ground)) {
-                    return false;
-                }
-            }
-            return false;
-        }
-
-        private boolean readPondOrStrip(Ground ground) {
-            if (isWord("pond") && ground.told == 0) {
-                return ground.ponds < MOST_PONDS ? readPond(ground) : fail(NO_ROOM);
-            }
-            if (isWord("strip")) {
-                return ground.told < MOST_STRIPS ? readStrip(ground) : fail(NO_ROOM);
-            }
-            return fail(MISPLACED);
-        }
-
         private boolean readPond(Ground ground) {
+            if (ground.ponds >= MOST_PONDS) {
+                return fail(NO_ROOM);
+            }
             if (!readNumber(LOWER)) {
                 return false;
             }
@@ -855,6 +845,9 @@ public final class FenceYards {
         }
 
         private boolean readStrip(Ground ground) {
+            if (ground.told >= MOST_STRIPS) {
+                return fail(NO_ROOM);
+            }
             nextToken();
             int sort = sortTold();
             if (sort < 0) {
