@@ -14,7 +14,7 @@ public final class AnyCallTest {
     }
 
     public static void main(String[] args) {
-        for (int run = 0; run < 400; run++) {
+        for (int run = 0; run < 1200; run++) {
             long begin = seed;
             int[] first = answers();
             seed = begin;
@@ -41,7 +41,7 @@ public final class AnyCallTest {
 
     private static int[] answers() {
         FenceYards x = new FenceYards();
-        int[] answers = new int[400];
+        int[] answers = new int[120];
         for (int i = 0; i < answers.length; i++) {
             answers[i] = pick(3) == 0 ? steer(x) : pick(2) == 0 ? anyCall(x) : anyAsk(x);
         }

@@ -14,7 +14,7 @@ public final class ModelTest {
     }
 
     public static void main(String[] args) {
-        for (int run = 0; run < 150; run++) {
+        for (int run = 0; run < 300; run++) {
             oneGround(run);
         }
         Due.end();
@@ -57,7 +57,8 @@ public final class ModelTest {
         Deque<int[]> ends = new ArrayDeque<>();
         Deque<Model.Ratio> lefts = new ArrayDeque<>();
         Model.Ratio left = Model.ZERO;
-        for (int i = 0; i < 16; i++) {
+        int looks = 0;
+        for (int i = 0; i < 18; i++) {
             String call = name + " step " + i;
             if (pick(4) == 0 && model.day > 0) {
                 model.day--;
@@ -80,8 +81,12 @@ public final class ModelTest {
                     model.day++;
                 }
             }
-            reaped(call, x, model, left);
-            foretold(call, x, model);
+            // Eight looks at most: an object is used for 512 calls.
+            if (looks < 8 && pick(2) == 0) {
+                looks++;
+                reaped(call, x, model, left);
+                foretold(call, x, model);
+            }
         }
     }
 

@@ -10,11 +10,15 @@ public final class RoomTest {
     public static void main(String[] args) {
         com.sun.management.ThreadMXBean threads =
             (com.sun.management.ThreadMXBean) ManagementFactory.getThreadMXBean();
-        FenceYards x = Due.groundOf(RYES);
-        x.row(0, 2, 40);
-        calls(x, 1);
+        FenceYards[] objects = new FenceYards[10];
+        for (int i = 0; i < objects.length; i++) {
+            objects[i] = Due.groundOf(RYES);
+            calls(objects[i], 1);
+        }
         long before = threads.getCurrentThreadAllocatedBytes();
-        calls(x, 500);
+        for (FenceYards x : objects) {
+            calls(x, 50);
+        }
         long bytes = threads.getCurrentThreadAllocatedBytes() - before;
         Due.holds("500 times nine calls make less than 100,000 bytes, not " + bytes, bytes < 100000);
         Due.end();
