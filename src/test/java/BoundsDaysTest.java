@@ -25,6 +25,7 @@ public final class BoundsDaysTest {
         undoOfNone();
         undoOfAll();
         undoneAndPassedAnew();
+        theLastOfManyCalls();
         stripRefused();
         stripsThatWereTold();
         shareWithAlikeEnds();
@@ -236,6 +237,24 @@ public final class BoundsDaysTest {
         Due.due("undo() of the last", x.undo(), 11);
         Due.holds("DAY 11 can be passed anew", x.day(0, 0) >= 0);
         Due.due("the DAY", x.count(2), 12);
+    }
+
+    // An object is used for at most 512 calls after it has been made
+    private static void theLastOfManyCalls() {
+        FenceYards x = Due.groundOf("fence 0 0;strip rye 99 0;");
+        int made = 5;
+        for (; made + 25 <= 511; made += 24) {
+            for (int d = 0; d < 12; d++) {
+                x.day(1, 1);
+            }
+            for (int d = 0; d < 12; d++) {
+                x.undo();
+            }
+        }
+        for (; made < 511; made++) {
+            Due.due("count(2)", x.count(2), 0);
+        }
+        Due.due("the 512th call", x.day(1, 1), 14);
     }
 
     private static FenceYards moved(int a, int b) {
