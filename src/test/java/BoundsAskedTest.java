@@ -50,6 +50,7 @@ public final class BoundsAskedTest {
         Due.due("none was told", Due.groundOf("fence 1 1;").kind(0), Due.BAD);
     }
 
+    // The KIND of a STRIP that was told (12 at most)
     private static void kindsOfTwelve() {
         FenceYards x = Due.groundOf("fence 1 1;" + "strip grass 1 1;".repeat(11) + "strip rye 1 1;");
         Due.due("the first", x.kind(0), 4);
@@ -70,6 +71,7 @@ public final class BoundsAskedTest {
         Stays.refused("as(0, 0)", FRESH, x -> x.as(0, 0), Due.BAD);
     }
 
+    // KIND: it is no such one; 2 APPLE, a BEAN one; 3 RYE, a BEAN one; 5 CLOVER, a GRASS one
     private static void asEachKind() {
         String[] sorts = {"bean", "apple", "rye", "grass", "clover"};
         for (int sort = 0; sort < 5; sort++) {
@@ -99,6 +101,7 @@ public final class BoundsAskedTest {
         }
     }
 
+    // the first of these that fits: BAD .., then FINDINGS
     private static void badIsAheadOfKind() {
         Stays.refused("as(6, 5)", RICH, x -> x.as(6, 5), Due.BAD);
         Stays.refused("as(-1, 5)", RICH, x -> x.as(-1, 5), Due.BAD);
@@ -363,6 +366,7 @@ public final class BoundsAskedTest {
         Due.due("FULL", z.status(), 2);
     }
 
+    // Of the latest call with a ROW, or as()
     private static void statusStaysAtOtherCalls() {
         FenceYards x = Past.richWithTape();
         x.feed(0L, 1);

@@ -127,6 +127,7 @@ public final class BoundsBestTest {
         Due.due("the greatest int", y.best(1, 1, 0), Due.BAD);
     }
 
+    // n ITEMS of a ROW from its beginning on
     private static void itemsBehindN() {
         FenceYards x = of(SHUT + "strip bean 9 0;", 0, 0, 5);
         Due.due("ITEM 2 is none of two", x.best(0, 2, -2), 9);
@@ -145,6 +146,7 @@ public final class BoundsBestTest {
         Due.due("two, of which one is left", x.best(0, 2, -2), 9);
     }
 
+    // the first of these that fits: BAD .., then FINDINGS
     private static void badIsAheadOfFindings() {
         Stays.refused("n, a missing ROW", RICH, x -> x.best(4, 13, 0), Due.BAD);
         Stays.refused("n, a missing ROW", RICH, x -> x.best(4, 0, 0), Due.BAD);
@@ -153,6 +155,7 @@ public final class BoundsBestTest {
         Stays.refused("k, no ITEMS", RICH, x -> x.best(3, 1, -3), Due.BAD);
     }
 
+    // NULL; PLACE; then BAD: an ITEM that is no move
     private static void findingsAreAheadOfItems() {
         Stays.refused("PLACE, an ITEM that is no move", RICH, x -> x.best(1, 6, 0), Due.PLACE);
         Stays.refused("BAD, an ITEM that is no move", RICH, x -> x.best(1, 5, 0), Due.BAD);
@@ -206,6 +209,7 @@ public final class BoundsBestTest {
         }
     }
 
+    // or till DAY 11; NONE: not so many
     private static void noDayLeft() {
         FenceYards x = Past.lastDay();
         for (int n = 1; n <= 12; n++) {
@@ -262,6 +266,7 @@ public final class BoundsBestTest {
         }
     }
 
+    // the most that the LEFT man can reap in them (0 to 12, into no pond)
     private static void theLeftManWithinBounds() {
         String all = "strip bean 8 0;".repeat(12);
         moves("at 12 he stays", of("fence 12 12;pond 1 11;" + all, 0), 0);
@@ -276,6 +281,7 @@ public final class BoundsBestTest {
         reaps("STRIP 8 is behind the pond", x, 12, 0);
     }
 
+    // -1, 0, 1 for each of n DAYS, of a ROW of any LANE (its lowest bits)
     private static void eachLane() {
         for (int lane = 0; lane <= 2; lane++) {
             FenceYards x = Due.groundOf("fence 0 1;pond 0 1;strip bean 8 0;");
@@ -298,6 +304,7 @@ public final class BoundsBestTest {
         Due.due("65535 in a short is -1", y.best(0, 1, -2), 0);
     }
 
+    // Of the latest call with a ROW .. that was not BAD, STATE, FULL
     private static void statusOfBest() {
         FenceYards x = Past.rich();
         Due.due("status() ahead of it", x.status(), 2);
@@ -316,6 +323,7 @@ public final class BoundsBestTest {
         Due.due("none", x.status(), 0);
     }
 
+    // FORETOLD (nothing changes)
     private static void nothingChanges() {
         for (Supplier<FenceYards> past : java.util.List.of(RICH, LAST)) {
             for (int k = -2; k <= 12; k++) {

@@ -207,6 +207,7 @@ public final class BoundsDaysTest {
         Due.due("none is left", x.undo(), Due.STATE);
     }
 
+    // The latest DAY is undone
     private static void undoneAndPassedAnew() {
         Stays.alike("a DAY that was undone", Past::firstDay, () -> {
             FenceYards x = Past.firstDay();
@@ -277,6 +278,7 @@ public final class BoundsDaysTest {
         Stays.refused("strip(0, 0)", FRESH, x -> x.strip(0, 0), Due.BAD);
     }
 
+    // Of a STRIP that was told (STRIPS 0 .. 11)
     private static void stripsThatWereTold() {
         FenceYards x = Due.groundOf("fence 3 5;" + "strip bean 1 2;".repeat(11) + "strip rye 3 4;");
         for (int what = 0; what <= 3; what++) {
@@ -322,6 +324,7 @@ public final class BoundsDaysTest {
         }
     }
 
+    // that by how many yards they are
     private static void shareOfTwelveYards() {
         share(0, 12, 0, 23, 24);
         share(12, 0, 0, 23, 24);
@@ -450,6 +453,7 @@ public final class BoundsDaysTest {
         crops("clover 7 11", 0, 0, 0, 0, 0, 0, 0, 0, 0, 0, 0, 7);
     }
 
+    // BAD (.. there is no such thing)
     private static void bareStripsHaveNoCrop() {
         FenceYards x = Due.groundOf("fence 0 0;strip bean 1 0;");
         Due.due("none was told", x.crop(1, 0), Due.BAD);
@@ -475,6 +479,7 @@ public final class BoundsDaysTest {
         apple(3, 6, 4, 0);
     }
 
+    // an apple on its DAY falls to who has more of the STRIP
     private static void applesOfMoreAndLess() {
         apple(0, 12, 5, 10);
         apple(12, 0, 5, 10);
@@ -501,6 +506,7 @@ public final class BoundsDaysTest {
         Stays.refused("reaped(1, 1)", FRESH, x -> x.reaped(1, 1), Due.STATE);
     }
 
+    // What was reaped so far (0 is 0 by 1)
     private static void reapedAtFirst() {
         FenceYards x = Past.firstDay();
         for (int who = 0; who <= 1; who++) {

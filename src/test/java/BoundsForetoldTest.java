@@ -124,6 +124,7 @@ public final class BoundsForetoldTest {
         Due.due("no FINDING", x.status(), 3);
     }
 
+    // the LEFT man's first move (-1, 0, 1)
     private static void gameFirstMoves() {
         // A half is the RIGHT man's: with A given way the apple comes to the left, or stays there.
         gameOf("fence 0 1;pond 1 0;pond 1 2;strip apple 7 0;", 1, 7, 1);
@@ -156,6 +157,7 @@ public final class BoundsForetoldTest {
         gameOf("fence 4 3;" + held, 1, 8, -1);
     }
 
+    // each DAY the LEFT man moves .., then the RIGHT man (0 to 12, into no pond)
     private static void gameAtTheRims() {
         // B can go to 0 only, A to 0 or 1: with A at 1 a half.
         gameOf("fence 0 0;pond 1 1;strip bean 2 0;", 12, 1, 1);
@@ -219,6 +221,7 @@ public final class BoundsForetoldTest {
         Due.fraction("4 less", y.treaty(1, 0), y.treaty(1, 1), -4, 1);
     }
 
+    // what the LEFT man would reap, if nobody moved, less GAME (0 is 0 by 1)
     private static void treatyOfNothing() {
         FenceYards x = Due.groundOf("fence 5 7;");
         Due.fraction("no STRIP", x.treaty(12, 0), x.treaty(12, 1), 0, 1);
@@ -226,6 +229,7 @@ public final class BoundsForetoldTest {
         Due.fraction("none can move", y.treaty(12, 0), y.treaty(12, 1), 0, 1);
     }
 
+    // or till DAY 11
     private static void treatyWithNoDayLeft() {
         FenceYards x = Past.lastDay();
         for (int n = 1; n <= 12; n++) {
@@ -269,6 +273,7 @@ public final class BoundsForetoldTest {
         Stays.refused("sow of a bare STRIP", bare, x -> x.sow(0, 0, 0, 0, 1, 0), Due.BAD);
     }
 
+    // if a STRIP were of another SORT, WORTH (0 to 99), RIPE (0 to 11)
     private static void sowFromLeastToMost() {
         FenceYards x = Due.groundOf("fence 12 12;pond 0 11;pond 1 11;"
             + "strip bean 50 0;".repeat(11) + "strip bean 40 11;");
@@ -284,6 +289,7 @@ public final class BoundsForetoldTest {
         Due.fraction("3 by 4 less", y.sow(0, 0, 3, 0, 1, 0), y.sow(0, 0, 3, 0, 1, 1), -3, 4);
     }
 
+    // a SORT (0 bean, 1 apple, 2 rye, 3 grass, 4 clover)
     private static void sowEachSort() {
         FenceYards x = Due.groundOf("fence 0 2;pond 0 1;pond 1 1;pond 1 3;"
             + "strip bean 0 0;strip bean 0 0;");
@@ -297,6 +303,7 @@ public final class BoundsForetoldTest {
         Due.due("clover on DAY 11", x.sow(0, 4, 40, 11, 12, 0), 30);
     }
 
+    // for n DAYS (1 to 12) from this one on, or till DAY 11
     private static void sowTillTheLastDay() {
         for (int ripe = 0; ripe < 12; ripe++) {
             FenceYards x = Due.groundOf(SHUT + "strip bean 0 0;");
@@ -311,6 +318,7 @@ public final class BoundsForetoldTest {
         }
     }
 
+    // GAME then, less GAME as it is (0 is 0 by 1)
     private static void sowOfTheSame() {
         FenceYards x = Past.firstDay();
         for (int n = 1; n <= 12; n++) {
@@ -318,6 +326,7 @@ public final class BoundsForetoldTest {
         }
     }
 
+    // or till DAY 11
     private static void sowWithNoDayLeft() {
         FenceYards x = Past.lastDay();
         for (int n = 1; n <= 12; n++) {
@@ -349,6 +358,7 @@ public final class BoundsForetoldTest {
         Stays.refused("unseen(9999, 99, 1)", FRESH, x -> x.unseen(9999, 99, 1), Due.STATE);
     }
 
+    // up by down (up 0 to 9999, down 1 to 99)
     private static void unseenFractions() {
         FenceYards x = Due.groundOf(SHUT + "strip bean 99 0;strip bean 2 0;");
         Due.due("101 by 1", x.unseen(101, 1, 0), 1);
@@ -472,6 +482,7 @@ public final class BoundsForetoldTest {
         }
     }
 
+    // wherever both ends can be (0 to 12, into no pond)
     private static void sureAtPondsAndRims() {
         for (int pond = 0; pond < 12; pond++) {
             FenceYards x = Due.groundOf("fence 12 12;pond 0 " + pond + ";pond 1 " + pond + ";");

@@ -170,6 +170,7 @@ public final class BoundsGroundTest {
         return ("fence " + a + " " + b + ";pond 0 ").length();
     }
 
+    // no end of the fence: that on its own rim
     private static void pondAcross() {
         FenceYards x = new FenceYards();
         Due.due("ponds where the other rim's end is", Due.read(x, FENCE + "pond 0 4;pond 1 3;"), 0);
@@ -245,6 +246,7 @@ public final class BoundsGroundTest {
         fault(text + " strip", text.length() + 1, 3);
     }
 
+    // ground: fence { pond } { strip }
     private static void pondsAheadOfStrips() {
         FenceYards x = new FenceYards();
         Due.due("a pond, a strip", Due.read(x, FENCE + POND + STRIP), 1);
@@ -287,6 +289,7 @@ public final class BoundsGroundTest {
         }
     }
 
+    // 1 it cannot stand there .. (the end: how many bytes there are)
     private static void theEnd() {
         String text = FENCE + POND + STRIP;
         for (int bytes = 0; bytes < text.length(); bytes++) {

@@ -61,6 +61,7 @@ public final class BoundsImagesTest {
         Due.due("restore(1)", Past.lastDay().restore(1), 1);
     }
 
+    // the first of these that fits: BAD, STATE
     private static void badIsAheadOfState() {
         for (int k : NO_IMAGES) {
             Stays.refused("image(" + k + "), no GROUND", FRESH, x -> x.image(k), Due.BAD);
@@ -121,6 +122,7 @@ public final class BoundsImagesTest {
         return x;
     }
 
+    // An IMAGE is kept of the GROUND, with DAYS that can be undone: none
     private static void restoreOnDayNone() {
         FenceYards x = Past.firstDay();
         x.image(0);
@@ -158,6 +160,7 @@ public final class BoundsImagesTest {
         Due.due("none is left to undo", x.undo(), Due.STATE);
     }
 
+    // All of that is as an IMAGE kept it; IMAGES stay
     private static void restoreIntoANewGround() {
         FenceYards x = Past.firstDay();
         x.image(1);
@@ -171,6 +174,7 @@ public final class BoundsImagesTest {
         Due.due("no pond of the other one", x.count(5), 0);
     }
 
+    // All of that is as an IMAGE kept it: no STRIP, no pond
     private static void restoreOfAGroundWithoutStrips() {
         FenceYards x = Due.groundOf("fence 2 9;");
         x.image(0);
@@ -185,6 +189,7 @@ public final class BoundsImagesTest {
         Due.due("B", x.count(4), 9);
     }
 
+    // An IMAGE (0, 1) is kept: the latest one
     private static void anImageInPlaceOfAnother() {
         FenceYards x = Past.firstDay();
         x.image(0);
@@ -235,6 +240,7 @@ public final class BoundsImagesTest {
         Due.due("B", x.count(4), 6);
     }
 
+    // All of that (the GROUND, with DAYS that can be undone), and nothing else
     private static void restoreLeavesTheRest() {
         FenceYards x = Past.rich();
         x.feed(0L, 3);
@@ -250,6 +256,7 @@ public final class BoundsImagesTest {
         Due.due("a ROW stays", x.drop(5), 7);
     }
 
+    // with DAYS that can be undone
     private static void undoBehindRestore() {
         FenceYards x = Past.rich();
         x.image(1);
@@ -262,6 +269,7 @@ public final class BoundsImagesTest {
         Due.due("undo()", x.undo(), 1);
     }
 
+    // all but the tape, and what fault() tells, stays
     private static void faultsLeaveImages() {
         FenceYards x = Past.firstDay();
         x.image(0);

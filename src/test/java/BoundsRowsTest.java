@@ -201,6 +201,7 @@ public final class BoundsRowsTest {
         Due.due("MIN and 127", x.set(0, 0, MIN + 127), 127);
     }
 
+    // its lowest bits, as many as the LANE has (read with their sign): shorts
     private static void lowestBitsOfShorts() {
         FenceYards x = new FenceYards();
         x.row(0, 1, 1);
@@ -214,6 +215,7 @@ public final class BoundsRowsTest {
         Due.due("MIN", x.set(0, 0, MIN), 0);
     }
 
+    // its lowest bits, as many as the LANE has (read with their sign): ints
     private static void lowestBitsOfInts() {
         FenceYards x = new FenceYards();
         x.row(0, 2, 1);
@@ -246,6 +248,7 @@ public final class BoundsRowsTest {
         Stays.refused("set(0, MAX, 1)", RICH, x -> x.set(0, MAX, 1), Due.PLACE);
     }
 
+    // FINDINGS, of several the first in time: NULL; PLACE
     private static void nullIsAheadOfPlaceInSet() {
         Stays.refused("set(4, -1, 1)", RICH, x -> x.set(4, -1, 1), Due.NULL);
         Stays.refused("set(7, MAX, 1)", RICH, x -> x.set(7, MAX, 1), Due.NULL);
@@ -275,6 +278,7 @@ public final class BoundsRowsTest {
         }
     }
 
+    // n ITEMS of a from i on: none, and PLACE beyond an end all the same
     private static void copyOfNoItems() {
         FenceYards x = new FenceYards();
         x.row(0, 0, 0);
@@ -317,6 +321,7 @@ public final class BoundsRowsTest {
         }
     }
 
+    // 0 to 40 ITEMS, all of them
     private static void copyOfTheWholeRow() {
         FenceYards x = moves();
         x.row(0, 0, 40);

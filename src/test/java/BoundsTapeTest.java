@@ -74,6 +74,7 @@ public final class BoundsTapeTest {
         }
     }
 
+    // The lowest n bytes of w, whatever w is
     private static void leastAndGreatestLong() {
         long[] words = {Long.MIN_VALUE, Long.MAX_VALUE, -1L, 0L};
         for (long w : words) {
@@ -124,6 +125,7 @@ public final class BoundsTapeTest {
         }
     }
 
+    // FULL: none comes; what is refused changes nothing
     private static void fullTakesNone() {
         Stays.refused("feed(-1, 1)", Past::richWithFullTape, x -> x.feed(-1L, 1), Due.FULL);
         Stays.refused("feed(0, 8)", Past::richWithFullTape, x -> x.feed(0L, 8), Due.FULL);
@@ -137,6 +139,7 @@ public final class BoundsTapeTest {
         Due.due("what was there is read", x.ground(), 1);
     }
 
+    // the first of these that fits: BAD, .. FULL
     private static void badIsAheadOfFull() {
         int[] no = {0, 9, -1, Integer.MIN_VALUE, Integer.MAX_VALUE};
         for (int n : no) {
@@ -145,6 +148,7 @@ public final class BoundsTapeTest {
         }
     }
 
+    // THE TAPE has at most 400 bytes; the end: how many bytes there are
     private static void aFullTapeIsRead() {
         String strip = "strip clover 99 11;";
         String text = "fence 12 12;" + "pond 1 11;".repeat(6) + strip.repeat(11);
@@ -160,6 +164,7 @@ public final class BoundsTapeTest {
         Due.due("a sign at the last place", Due.read(x, Past.padded("", 399) + ";"), -1000499);
     }
 
+    // NAMES, NUMBERS that end with the tape
     private static void aTokenUpToTheLastByte() {
         FenceYards x = new FenceYards();
         Due.due("400 letters", Due.read(x, "z".repeat(400)), -1000100);
@@ -212,12 +217,14 @@ public final class BoundsTapeTest {
         }
     }
 
+    // bytes 32 and 10 ahead of these
     private static void bytesAhead() {
         for (int c = 0; c < 256; c++) {
             reads(c, (char) c + "fence 3 4;", isBlank(c) ? 0 : -1000100);
         }
     }
 
+    // bytes 32 and 10 behind these
     private static void bytesBehind() {
         for (int c = 0; c < 256; c++) {
             reads(c, "fence 3 4;" + (char) c, isBlank(c) ? 0 : -1000110);
