@@ -15,6 +15,13 @@ public final class LanguageTest {
         "fault", "day", "undo", "strip", "crop", "reaped", "best", "game", "treaty", "sow",
         "unseen", "sure", "image", "restore", "kind", "as", "ask", "trace", "count", "status");
 
+    private static final Set<String> CALLS = Set.of("row(int,int,int)", "set(int,int,int)",
+        "copy(int,int,int,int,int)", "drop(int)", "feed(long,int)", "ground()", "fault()",
+        "day(int,int)", "undo()", "strip(int,int)", "crop(int,int)", "reaped(int,int)",
+        "best(int,int,int)", "game(int,int)", "treaty(int,int)", "sow(int,int,int,int,int,int)",
+        "unseen(int,int,int)", "sure(int)", "image(int)", "restore(int)", "kind(int)",
+        "as(int,int)", "ask(int,int)", "trace(int)", "count(int)", "status()");
+
     private static final List<String> FORBIDDEN = List.of("throw", "throws", "try", "catch",
         "synchronized", "assert", "var", "null ==", "->", "::", "Exact", "Override", "double",
         "float", "System.out", "Random", "equals", "hashCode", "toString");
@@ -43,10 +50,14 @@ public final class LanguageTest {
         Set<String> seen = new TreeSet<>();
         for (Method method : FenceYards.class.getDeclaredMethods()) {
             if (!Modifier.isPrivate(method.getModifiers())) {
-                seen.add(method.getName());
+                seen.add(method.toString());
             }
         }
-        Due.holds("the methods of the face, and no others", seen.equals(new TreeSet<>(FACE)));
+        Set<String> told = new TreeSet<>();
+        for (String call : CALLS) {
+            told.add("public int FenceYards." + call);
+        }
+        Due.holds("the methods of the face, as the document tells them: " + seen, seen.equals(told));
         Due.holds("a final class", Modifier.isFinal(FenceYards.class.getModifiers()));
         Due.due("NONE", FenceYards.NONE, Due.NONE);
         Due.due("BAD", FenceYards.BAD, Due.BAD);
@@ -57,7 +68,9 @@ public final class LanguageTest {
             open += Modifier.isPrivate(field.getModifiers()) ? 0 : 1;
         }
         Due.due("constants that are public", open, 4);
-        Due.due("constructors", FenceYards.class.getConstructors().length, 1);
+        Due.due("constructors", FenceYards.class.getDeclaredConstructors().length, 1);
+        Due.due("public constructors", FenceYards.class.getConstructors().length, 1);
+        Due.due("what it takes", FenceYards.class.getConstructors()[0].getParameterCount(), 0);
     }
 
     private static void members(Class<?> one) {
